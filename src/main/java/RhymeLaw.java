@@ -238,8 +238,9 @@ public final class RhymeLaw {
         if (!view(f, 0).isLaw() || view(f, 1).isLaw()) {
             return NONE;
         }
+        // A word of no line parts nothing, so all words may be tried.
         for (int w = 0; w < told.words.size(); w++) {
-            if (told.paper.uses(w) && isMixedLaw(f, w)) {
+            if (isMixedLaw(f, w)) {
                 return w;
             }
         }
@@ -614,15 +615,6 @@ public final class RhymeLaw {
                 default:
                     return BAD;
             }
-        }
-
-        boolean uses(int word) {
-            for (int i = 0; i < size; i++) {
-                if (wordAt(i) == word) {
-                    return true;
-                }
-            }
-            return false;
         }
 
         void insert(int p, int word, int thing, int before) {
