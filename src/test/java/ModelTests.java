@@ -5,6 +5,10 @@ final class ModelTests {
     // How often each of these was met: runs in which nothing ever stands would prove nothing.
     private static final String[] MET = {"law", "changed", "short", "parted", "forged", "guessed", "both", "left", "fault"};
     private static final int[] met = new int[MET.length];
+    // A step may mend eight lines, and judge each of them four times.
+    private static final int MOST_OF_A_STEP = 55;
+    private static final int MOST_OF_CHANGEABLE = 87;
+    private static final int MOST_OF_STATE = 291;
 
     private static int pick(int n) {
         seed = seed * 6364136223846793005L + 1442695040888963407L;
@@ -78,188 +82,142 @@ final class ModelTests {
         return other.toString();
     }
 
-    private static void type(RhymeLaw x, Model y, String text) {
+    /** Typed by pieces of any length, other bytes above each. */
+    private static void type(Pair p, String text) {
         for (int from = 0; from < text.length(); ) {
-            int n = Math.min(1 + pick(8), text.length() - from);
+            int n = Math.min(pick(4) == 0 ? 1 + pick(8) : 8, text.length() - from);
             long v = Check.packed(text.substring(from, from + n)) | (n < 8 ? (long) pick(99) << 8 * n : 0);
-            Check.due("type", x.type(v, n), y.type(v, n));
+            p.type(v, n);
             from += n;
         }
     }
 
-    private static void read(RhymeLaw x, Model y, String text) {
-        Check.due("clear", x.clear(), y.clear());
-        type(x, y, text);
-        int items = y.read();
-        met[8] += items < 0 ? 1 : 0;
-        Check.due("read of '" + text + "'", x.read(), items);
+    private static void read(Pair p, String text) {
+        p.clear();
+        type(p, text);
+        met[8] += p.read() < 0 ? 1 : 0;
     }
 
-    private static void state(RhymeLaw x, Model y) {
-        for (int k = -1; k <= 5; k++) {
-            Check.due("count " + k, x.count(k), y.count(k));
-        }
-        for (int k = -1; k <= 16; k++) {
-            for (int what = -1; what <= 4; what++) {
-                Check.due("word " + k + " " + what, x.word(k, what), y.word(k, what));
-            }
-        }
-        for (int k = -1; k <= 8; k++) {
-            for (int what = -1; what <= 3; what++) {
-                Check.due("line " + k + " " + what, x.line(k, what), y.line(k, what));
-                Check.due("stock " + k + " " + what, x.stock(k, what), y.stock(k, what));
-            }
-        }
-        for (int f = -1; f <= 2; f++) {
-            for (int k = -1; k <= 17; k++) {
-                Check.due("form " + f + " " + k, x.form(f, k), y.form(f, k));
-            }
-        }
-        Check.due("trace", x.trace(), y.trace());
-    }
-
-    private static void changes(RhymeLaw x, Model y) {
-        int a;
-        int b;
-        int c;
-        int e;
+    private static void changes(Pair p) {
+        int lines = p.model().paper.size();
+        int words = p.model().words.size();
         switch (pick(7)) {
             case 0:
-                a = near(0, 7);
-                b = pick(3) == 0 ? near(0, 20) : pick(2) * 2;
-                Check.due("metre", x.metre(a, b), y.metre(a, b));
+                p.metre(near(0, 7), pick(3) == 0 ? near(0, 20) : pick(2) * 2);
                 break;
             case 1:
-                a = near(0, y.paper.size());
-                b = near(0, y.words.size() - 1);
-                c = near(0, 9);
-                e = pick(3) == 0 ? near(0, 16) : pick(2);
-                Check.due("put", x.put(a, b, c, e), y.put(a, b, c, e));
+                p.put(near(0, lines), near(0, words - 1), near(0, 9), pick(3) == 0 ? near(0, 16) : pick(2));
                 break;
             case 2:
-                a = near(0, y.paper.size() - 1);
-                b = near(0, y.words.size() - 1);
-                Check.due("change", x.change(a, b), y.change(a, b));
+                p.change(near(0, lines - 1), near(0, words - 1));
                 break;
             case 3:
-                a = near(0, y.paper.size() - 1);
-                Check.due("take", x.take(a), y.take(a));
+                p.take(near(0, lines - 1));
                 break;
             case 4:
-                a = near(0, 1);
-                Check.due("keep", x.keep(a), y.keep(a));
+                p.keep(near(0, 1));
                 break;
             case 5:
-                a = near(0, 1);
-                Check.due("back", x.back(a), y.back(a));
+                p.back(near(0, 1));
                 break;
             default:
-                mend(x, y);
+                mend(p);
                 break;
         }
     }
 
     /** Takes the mended paper for the paper, so that what is law is met often. */
-    private static void mend(RhymeLaw x, Model y) {
+    private static void mend(Pair p) {
         int f = pick(2);
         int d = pick(2);
-        int lines = y.paper.size();
+        int lines = p.model().paper.size();
         int[] row = new int[lines];
         for (int i = 0; i < lines; i++) {
-            row[i] = y.mended(f, d, i);
+            row[i] = isFew(p.model(), lines) ? p.model().mended(f, d, i) : -1;
         }
         for (int i = 0; i < lines && row[i] >= 0; i++) {
-            Check.due("change", x.change(i, row[i]), y.change(i, row[i]));
+            p.change(i, row[i]);
         }
     }
 
-    private static void judged(RhymeLaw x, Model y, int f, int d) {
-        for (int i = 0; i < y.paper.size(); i++) {
+    private static void judged(Pair p, int f, int d) {
+        int lines = p.model().paper.size();
+        for (int i = 0; i < lines; i++) {
             for (int what = 0; what < 4; what++) {
-                Check.due("judged", x.judged(f, d, i, what), y.judged(f, d, i, what));
+                p.judged(f, d, i, what);
             }
         }
-        int i = near(0, y.paper.size() - 1);
-        int what = near(0, 3);
-        Check.due("judged", x.judged(f, d, i, what), y.judged(f, d, i, what));
-        int law = y.law(f, d);
-        met[0] += law == 1 ? 1 : 0;
-        Check.due("law", x.law(f, d), law);
-        Check.due("empty", x.empty(f, d), y.empty(f, d));
-        Check.due("bound", x.bound(f, d), y.bound(f, d));
-        int set = near(0, 255);
-        int left = y.struck(f, d, set);
-        met[7] += left > 0 ? 1 : 0;
-        Check.due("struck", x.struck(f, d, set), left);
-        Check.due("key", x.key(f, d), y.key(f, d));
+        p.judged(f, d, near(0, lines - 1), near(0, 3));
+        met[0] += p.law(f, d) == 1 ? 1 : 0;
+        p.empty(f, d);
+        p.bound(f, d);
+        met[7] += p.struck(f, d, near(0, 255)) > 0 ? 1 : 0;
+        p.key(f, d);
     }
 
-    private static boolean isFew(Model y, int set) {
-        return Math.pow(Math.max(1, y.words.size()), Integer.bitCount(set & 255)) <= 3000;
+    /** Whether the model, that tries all rows of words, is soon done with so many lines. */
+    private static boolean isFew(Model y, int lines) {
+        return Math.pow(Math.max(1, y.words.size()), lines) <= 20000;
     }
 
-    private static void others(RhymeLaw x, Model y, int f, int d) {
-        int i = near(-1, y.paper.size() - 1);
-        int changes = y.mended(f, d, i);
-        met[1] += i == -1 && changes > 0 ? 1 : 0;
-        Check.due("mended", x.mended(f, d, i), changes);
+    private static void others(Pair p, int f, int d) {
+        int i = near(-1, p.model().paper.size() - 1);
+        if (isFew(p.model(), p.model().paper.size())) {
+            met[1] += p.mended(f, d, i) > 0 && i == -1 ? 1 : 0;
+        }
         int things = pick(3) == 0 ? near(0, 1023) : 1 << pick(10) & ~(1 << pick(10));
-        int at = near(-1, 6);
-        int shortest = y.shortest(f, d, things, at);
-        met[2] += shortest > 0 ? 1 : 0;
-        Check.due("shortest", x.shortest(f, d, things, at), shortest);
-        int both = y.both(d);
-        met[6] += both == 1 ? 1 : 0;
-        Check.due("both", x.both(d), both);
-        int parting = y.parting(f);
-        met[3] += parting >= 0 ? 1 : 0;
-        Check.due("parting", x.parting(f), parting);
-        int k = near(0, y.paper.size() - 1);
-        int forged = y.forged(f, d, k);
-        met[4] += forged >= 0 ? 1 : 0;
-        Check.due("forged", x.forged(f, d, k), forged);
+        met[2] += p.shortest(f, d, things, near(-1, 6)) > 0 ? 1 : 0;
+        met[6] += p.both(d) == 1 ? 1 : 0;
+        met[3] += p.parting(f) >= 0 ? 1 : 0;
+        int k = near(0, p.model().paper.size() - 1);
+        met[4] += p.forged(f, d, k) >= 0 ? 1 : 0;
         int set = near(0, 255);
-        while (!isFew(y, set)) {
+        while (!isFew(p.model(), Integer.bitCount(set & 255))) {
             set &= set - 1;
         }
-        long ways = y.burnt(f, d, set, i);
-        met[5] += ways > 1 ? 1 : 0;
-        Check.due("burnt", x.burnt(f, d, set, i), ways);
-        int kind = near(0, 5);
-        Check.due("rate", x.rate(kind, k), y.rate(kind, k));
-        Check.due("trace", x.trace(), y.trace());
+        met[5] += p.burnt(f, d, set, i) > 1 ? 1 : 0;
+        p.rate(near(0, 5), k);
+        p.trace();
     }
 
-    private static void run(int round) {
-        RhymeLaw x = new RhymeLaw();
-        Model y = new Model();
-        int sounds = 1 + pick(3);
+    private static String anyText() {
         int lines = pick(7);
-        int words = lines > 4 ? pick(5) : pick(13);
-        String text = text(sounds, 1 + pick(4), words, lines, pick(2));
+        return text(1 + pick(3), 1 + pick(4), lines > 4 ? pick(5) : pick(13), lines, pick(2));
+    }
+
+    private static void judgedRun(String text) {
+        Pair p = new Pair();
         if (pick(9) == 0) {
-            changes(x, y);
+            changes(p);
         }
-        read(x, y, text);
-        for (int step = 0; step < 12; step++) {
-            changes(x, y);
-            if (y.paper.size() > 6 && y.words.size() > 4) {
-                continue;
-            }
+        read(p, text);
+        while (p.left() > MOST_OF_A_STEP + MOST_OF_CHANGEABLE) {
+            changes(p);
+            p.count(2);
             int f = pick(30) == 0 ? near(0, 2) : pick(2);
             int d = pick(30) == 0 ? near(0, 1) : pick(2);
-            judged(x, y, f, d);
-            others(x, y, f, d);
+            judged(p, f, d);
+            others(p, f, d);
         }
-        state(x, y);
-        read(x, y, spoilt(text));
-        Check.due("back behind reading", x.back(0), y.back(0));
-        state(x, y);
+        p.changeable();
+    }
+
+    private static void readRun(String text) {
+        Pair p = new Pair();
+        String first = pick(3) == 0 ? text : "";
+        read(p, first);
+        p.keep(pick(2));
+        read(p, spoilt(text));
+        p.back(0);
+        if (p.left() >= MOST_OF_STATE) {
+            p.state();
+        }
     }
 
     public static void main(String[] args) {
-        for (int round = 0; round < 3000; round++) {
-            run(round);
+        for (int round = 0; round < 4000; round++) {
+            judgedRun(anyText());
+            readRun(anyText());
         }
         for (int k = 0; k < MET.length; k++) {
             System.out.println("met " + MET[k] + ": " + met[k]);

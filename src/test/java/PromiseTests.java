@@ -108,14 +108,6 @@ final class PromiseTests {
         Check.due("the text is empty then", x.count(4), 0);
     }
 
-    private static String times(String item, int n) {
-        StringBuilder text = new StringBuilder();
-        for (int k = 0; k < n; k++) {
-            text.append(item);
-        }
-        return text.toString();
-    }
-
     private static void readFaults() {
         fault(";", 0);
         fault("  ;", 2);
@@ -169,9 +161,9 @@ final class PromiseTests {
         fault("word 0 0 0 1;stock 0 10 0;", 21);
         fault("word 0 0 0 1;stock 0 0 17;", 23);
         fault("word 0 0 0 1;stock 0 0 0 word", 25);
-        fault(times("word 0 0 0 1;", 17), 208);
-        fault("word 0 0 0 1;" + times("line 0 0 0;", 9), 101);
-        fault("word 0 0 0 1;" + times("stock 0 0 0;", 7), 85);
+        fault(Check.times("word 0 0 0 1;", 17), 208);
+        fault("word 0 0 0 1;" + Check.times("line 0 0 0;", 9), 101);
+        fault("word 0 0 0 1;" + Check.times("stock 0 0 0;", 7), 85);
         fault("word 0 0 0 1;line 0 0 0$", 23);
     }
 
@@ -184,7 +176,7 @@ final class PromiseTests {
         items("form b;", 1);
         items("metre a20;metre a0;metre h 1;", 3);
         items("metre a 1;metre a 2;", 2);
-        items(times("word 0 0 0 1;", 16) + times("line 15 9 16;", 8) + times("stock 15 9 16;", 6), 30);
+        items(Check.times("word 0 0 0 1;", 16) + Check.times("line 15 9 16;", 8) + Check.times("stock 15 9 16;", 6), 30);
         readFaults();
         RhymeLaw x = sample();
         Check.due("metre of the text", x.metre(2, 5), 5);
@@ -456,7 +448,7 @@ final class PromiseTests {
         Check.due("second", y.mended(0, 0, 1), 1);
         Check.due("third", y.mended(0, 0, 2), 0);
         // Eight lines of one word, sixteen words of one meaning and sound: each second one is changed.
-        RhymeLaw z = Check.told(times("word 9 9 9 1;", 16) + "form a;" + times("line 5 0 0;", 8));
+        RhymeLaw z = Check.told(Check.times("word 9 9 9 1;", 16) + "form a;" + Check.times("line 5 0 0;", 8));
         Check.due("every second", z.mended(0, 1, -1), 4);
         for (int i = 0; i < 8; i++) {
             Check.due("row " + i, z.mended(0, 1, i), i % 2 == 0 ? 0 : 5);
@@ -602,7 +594,7 @@ final class PromiseTests {
         // Line 0 with 1 before: words of one syllable, 0 and 2; line 2 with none: word 1.
         Check.due("by a metre", x.burnt(0, 0, 5, -1), 1);
         Check.due("by a metre, in the other dialect", x.burnt(0, 1, 5, 0), 1);
-        RhymeLaw full = Check.told(times("word 9 9 9 1;", 16) + "form a;" + times("line 5 0 0;", 8));
+        RhymeLaw full = Check.told(Check.times("word 9 9 9 1;", 16) + "form a;" + Check.times("line 5 0 0;", 8));
         Check.due("more ways than an int has", full.burnt(0, 0, 255, -1), 16L * 15 * 15 * 15 * 15 * 15 * 15 * 15);
         Check.due("any word", full.burnt(0, 0, 255, 7), 16);
         Check.due("the ends known", full.burnt(0, 0, 126, 7), 1);
