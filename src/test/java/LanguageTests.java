@@ -115,6 +115,19 @@ final class LanguageTests {
         }
     }
 
+    /** A method's closing brace stands below its first sign. */
+    private static void methods() throws IOException {
+        List<String> lines = Files.readAllLines(Path.of("src/main/java/RhymeLaw.java"));
+        for (int i = 0; i < lines.size(); i++) {
+            String line = lines.get(i);
+            String margin = line.substring(0, line.length() - line.stripLeading().length());
+            if (line.matches(" {4}(    )?\\w.*\\) \\{") && !line.matches(" *(if|for|while|switch|\\}).*")) {
+                int end = lines.subList(i, lines.size()).indexOf(margin + "}");
+                Check.holds("some sixty lines:" + line, end > 0 && end <= 60);
+            }
+        }
+    }
+
     private static void weigh(Object object, Map<Object, Integer> weights) throws IllegalAccessException {
         if (object == null || weights.containsKey(object)) {
             return;
@@ -157,6 +170,7 @@ final class LanguageTests {
         face();
         inside();
         source();
+        methods();
         room();
         Check.end("LanguageTests");
     }

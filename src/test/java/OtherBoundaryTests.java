@@ -173,6 +173,10 @@ final class OtherBoundaryTests {
         Check.due("by form 0", x.shortest(0, 0, 0, -1), -9);
         bad("form", f -> x.shortest(f, 0, 0, -1), -1, 2, FAR, LOW);
         bad("dialect", d -> x.shortest(0, d, 0, -1), -1, 2, FAR, LOW);
+        RhymeLaw two = shelf("form ab;form aabb;", 0, 3, 1);
+        Check.due("by form 0", two.shortest(0, 0, 0, -1), -9);
+        Check.due("by form 1", two.shortest(1, 0, 0, -1), 2);
+        Check.due("by form 1, the second", two.shortest(1, 0, 0, 1), 2);
         RhymeLaw none = shelf("", 0, 1);
         bad("form", f -> none.shortest(f, 0, 0, -1), 0, 1);
         Check.changesNothing("shortest", OtherBoundaryTests::sample, y -> y.shortest(1, 0, 6, 0), 1);

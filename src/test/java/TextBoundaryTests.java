@@ -193,21 +193,26 @@ final class TextBoundaryTests {
         Check.due("the trace goes on", x.trace(), 100001);
     }
 
-    /** Whatever a reading leaves behind, a second and a third one know nothing of it. */
+    /** Whatever a reading leaves behind, none of the next ones knows of it. */
     private static void readTellsAllAnewEachTime() {
         RhymeLaw x = new RhymeLaw();
         String full = Check.times(WORD, 16) + "form abcdefgh;form hg;metre a 5;metre h 6;"
                 + Check.times("line 15 9 16;", 8) + "stock 3 3 3;";
-        for (int round = 0; round < 3; round++) {
+        for (int round = 0; round < 4; round++) {
             Check.type(x, full);
             Check.due("read all", x.read(), 29);
-            Check.type(x, "form b;");
-            Check.due("read little", x.read(), 1);
-            Check.due("metre a", x.metre(0, 9), 0);
-            Check.due("metre h", x.metre(7, 9), 0);
-            Check.due("one letter", x.form(0, 1), 1);
-            Check.due("no second form", x.form(1, 0), -1);
-            Check.due("counts", x.count(0) + x.count(2) + x.count(3), 0);
+            Check.due("eight letters", x.form(0, 7), 7);
+            for (String letters : new String[] {"d", "cb"}) {
+                Check.type(x, "form " + letters + ";");
+                Check.due("read little", x.read(), 1);
+                Check.due("metre a", x.metre(0, 9), 0);
+                Check.due("metre h", x.metre(7, 9), 0);
+                for (int i = 0; i < 4; i++) {
+                    Check.due("letter " + i, x.form(0, i), letters.charAt(i % letters.length()) - 'a');
+                }
+                Check.due("no second form", x.form(1, 0), -1);
+                Check.due("counts", x.count(0) + x.count(2) + x.count(3), 0);
+            }
         }
     }
 
