@@ -168,6 +168,8 @@ final class JudgedBoundaryTests {
     private static void theFormGoesOn() {
         RhymeLaw x = paper("form abc;", 2, 2, 2, 3, 3, 3, 2, 2);
         judgedAs(x, 0, 0, "OOO01234");
+        judgedAs(paper("form h;", 2, 3, 2, 3), 0, 0, "O012");
+        judgedAs(paper("form hga;", 2, 3, 2, 3, 2, 3), 0, 0, "OOO012");
         RhymeLaw seven = paper("form abcdefg;", 2, 2, 2, 2, 2, 2, 2, 3);
         judgedAs(seven, 0, 0, "Ooooooo0");
     }
@@ -297,6 +299,25 @@ final class JudgedBoundaryTests {
         Check.due("no lines", none.struck(0, 0, -1), 0);
     }
 
+    /** Lines that were taken out, or put in by a forger, are none of the paper's. */
+    private static void struckLinesThatThereWere() {
+        RhymeLaw x = chain();
+        Check.due("eight", x.struck(0, 0, 0), 255);
+        for (int lines = 7; lines >= 2; lines--) {
+            x.take(lines);
+            Check.due("struck none of " + lines, x.struck(0, 0, 0), (1 << lines) - 1);
+            Check.due("bound of " + lines, x.bound(0, 0), (1 << lines) - 1);
+            Check.due("empty of " + lines, x.empty(0, 0), -9);
+            Check.due("key of " + lines, x.key(0, 0), 0);
+        }
+        x.take(1);
+        Check.due("one line", x.struck(0, 0, 0), 0);
+        Check.due("its bound", x.bound(0, 0), 0);
+        x.take(0);
+        Check.due("no lines", x.struck(0, 0, 0), 0);
+        Check.due("no key", x.key(0, 0), -9);
+    }
+
     private static void struckOnesThatDoNotBind() {
         RhymeLaw x = paper("form ab;", 2, 0, 3, 2);
         Check.due("none struck", x.struck(0, 0, 0), 5);
@@ -385,6 +406,7 @@ final class JudgedBoundaryTests {
         Check.sentence("struck: BAD", JudgedBoundaryTests::struckForms);
         Check.sentence("struck: each of which the anchor lapses", JudgedBoundaryTests::struckEachOfEight);
         Check.sentence("struck: those that there are not are left out", JudgedBoundaryTests::struckLinesThatThereAreNot);
+        Check.sentence("struck: lines that there are no more", JudgedBoundaryTests::struckLinesThatThereWere);
         Check.sentence("left: those that bind", JudgedBoundaryTests::struckOnesThatDoNotBind);
         Check.sentence("left: if they open, the anchor of one that did not lapse", JudgedBoundaryTests::leftIfItAnchorsOne);
         Check.sentence("key: BAD", JudgedBoundaryTests::keyForms);

@@ -157,6 +157,13 @@ final class OtherBoundaryTests {
         mendedRow(x, 0, 4, 0, 15, 0, 15, 0, 15, 0, 15);
     }
 
+    private static void mendedByAnyLetters() {
+        for (String letters : new String[] {"a", "b", "h", "aab", "hhg"}) {
+            mendedRow(paper("form " + letters + ";", 0, 0), 0, 1, 0, 1);
+        }
+        mendedRow(paper("form gh;metre a 9;", 0, 3, 0, 3), 0, 2, 0, 3, 1, 4);
+    }
+
     // ---- promise 20: shortest
 
     private static void row(RhymeLaw x, int things, int... row) {
@@ -249,6 +256,13 @@ final class OtherBoundaryTests {
         row(shelf("form abab;", 3, 0, 4, 1), 0, 0, 1, 2, 3);
         RhymeLaw metre = Check.told(WORDS + "form a;metre a 3;stock 0 0 0;stock 1 1 2;stock 0 2 2;");
         row(metre, 0, 1, 2);
+    }
+
+    private static void shortestByAnyLetters() {
+        for (String letters : new String[] {"a", "b", "h", "aab", "hhg"}) {
+            row(shelf("form " + letters + ";", 3, 0, 1), 0, 1, 2);
+        }
+        row(shelf("form hgg;", 0, 3, 4, 1), 0, 0, 1, 2, 3);
     }
 
     private static void shortestInADialect() {
@@ -451,6 +465,22 @@ final class OtherBoundaryTests {
         Check.due("the last of eight", full.burnt(0, 0, 128 | 256, -1), 3);
     }
 
+    /** The letter that a line behind the paper would have is none of the paper's. */
+    private static void burntByAnyLetters() {
+        for (String letters : new String[] {"a", "b", "h", "aab", "hhg", "hha"}) {
+            RhymeLaw x = paper("form " + letters + ";metre c 9;", 0, 1);
+            Check.due("all bits by " + letters, x.burnt(0, 0, -1, -1), 14);
+            Check.due("words by " + letters, x.burnt(0, 0, -1, 1), 6);
+            Check.due("none by " + letters, x.burnt(0, 0, 0, -1), 1);
+        }
+        RhymeLaw metre = paper("form aab;metre b 9;", 0, 1);
+        Check.due("a metre of a letter that no line has", metre.burnt(0, 0, -1, -1), 14);
+        RhymeLaw taken = paper("form aab;", 0, 1, 3);
+        Check.due("a letter with one line", taken.burnt(0, 0, -1, -1), 0);
+        taken.take(2);
+        Check.due("it is taken out", taken.burnt(0, 0, -1, -1), 14);
+    }
+
     private static void burntOfFewLines() {
         RhymeLaw none = paper("form a;");
         Check.due("no lines", none.burnt(0, 0, 0, -1), 0);
@@ -512,6 +542,7 @@ final class OtherBoundaryTests {
         Check.sentence("mended: all are changed", OtherBoundaryTests::mendedAll);
         Check.sentence("mended: others of their meaning", OtherBoundaryTests::mendedOfTheirMeaning);
         Check.sentence("mended: the fewest", OtherBoundaryTests::mendedTheFewest);
+        Check.sentence("mended: letters a .. h", OtherBoundaryTests::mendedByAnyLetters);
         Check.sentence("mended: of several rows of words the first", OtherBoundaryTests::mendedTheFirst);
     }
 
@@ -524,6 +555,7 @@ final class OtherBoundaryTests {
         Check.sentence("shortest: all of the stock", OtherBoundaryTests::shortestOfAllSix);
         Check.sentence("shortest: one of the fewest lines", OtherBoundaryTests::shortestTheFewest);
         Check.sentence("shortest: of several the first by numbers", OtherBoundaryTests::shortestTheFirst);
+        Check.sentence("shortest: letters a .. h", OtherBoundaryTests::shortestByAnyLetters);
         Check.sentence("shortest: in a dialect", OtherBoundaryTests::shortestInADialect);
         Check.sentence("shortest: as a paper, whatever the paper", OtherBoundaryTests::shortestWhateverThePaper);
     }
@@ -551,6 +583,7 @@ final class OtherBoundaryTests {
         Check.sentence("burnt: -1: BAD", OtherBoundaryTests::burntForms);
         Check.sentence("burnt: i below -1, beyond, too", OtherBoundaryTests::burntLine);
         Check.sentence("burnt: lines that there are not are left out", OtherBoundaryTests::burntLinesThatThereAreNot);
+        Check.sentence("burnt: letters a .. h, of the paper's lines alone", OtherBoundaryTests::burntByAnyLetters);
         Check.sentence("burnt: no line, one line", OtherBoundaryTests::burntOfFewLines);
         Check.sentence("burnt: in no way", OtherBoundaryTests::burntNoWays);
         Check.sentence("burnt: any word each", OtherBoundaryTests::burntAnyWord);

@@ -5,6 +5,7 @@ final class TextBoundaryTests {
     private static final String WORD = "word 0 0 0 1;";
     private static final String STANDING =
             "word 1 2 3 4;word 4 3 2 1;form abc;metre c 9;line 1 2 3;line 0 4 5;stock 1 6 7;stock 0 8 9;";
+    private static final String[] NAMES = {"word", "form", "metre", "line", "stock"};
     private static final int FAR = Integer.MAX_VALUE;
     private static final int LOW = Integer.MIN_VALUE;
 
@@ -641,6 +642,13 @@ final class TextBoundaryTests {
             fault("^" + name + " 0 0 0 1;");
             fault(WORD + "^" + name + " 0 0 0;");
         }
+        for (String name : NAMES) {
+            for (int i = 0; i < name.length(); i++) {
+                fault("^" + name.substring(0, i) + "x" + name.substring(i + 1) + " 0 0 0 1;");
+                fault("^" + name.substring(0, i) + name.substring(i + 1) + " 0 0 0 1;");
+                fault("^" + name.substring(0, i) + "x" + name.substring(i) + " 0 0 0 1;");
+            }
+        }
         fault("^Word 0 0 0 1;");
         fault("^0 word 0 0 0 1;");
         fault("^1;");
@@ -648,8 +656,7 @@ final class TextBoundaryTests {
     }
 
     private static void namesStandOnlyAtTheBegin() {
-        String[] names = {"word", "form", "metre", "line", "stock"};
-        for (String name : names) {
+        for (String name : NAMES) {
             fault("word 0 ^" + name + " 0 1;");
             fault("form ^" + name + ";");
             fault("metre ^" + name + " 1;");
